@@ -199,7 +199,9 @@ public final class LoggiaPlanner {
             throw new UnsupportedOperationException("the exhibition has no works");
         }
         show.state = WAITS;
-        planIfPossible(show);
+        if (findsWorkByWork(show)) {
+            hangAsFound(show);
+        }
         return show.state;
     }
 
@@ -402,20 +404,17 @@ public final class LoggiaPlanner {
         int count = 0;
         for (int i = 0; i < calendar.exhibitions.size(); i++) {
             Exhibition show = calendar.exhibitions.get(i);
-            if (show.state == WAITS && planIfPossible(show)) {
+            if (show.state == WAITS && findsWorkByWork(show)) {
+                hangAsFound(show);
                 count++;
             }
         }
         return count;
     }
 
-    private boolean planIfPossible(Exhibition show) {
-        if (!findsWorkByWork(show)) {
-            return false;
-        }
+    private void hangAsFound(Exhibition show) {
         show.hangAs(board.chosen);
         timesPlanned++;
-        return true;
     }
 
     private boolean findsWorkByWork(Exhibition show) {
@@ -996,6 +995,7 @@ public final class LoggiaPlanner {
         private int limit;
         private int count;
         private final int[] values = new int[MOST_SHOWN];
+        /** All 0 between two questions, as each try takes back what it put. */
         private final int[] onTrip = new int[MOST_SHOWN];
         /** The trips that each group of works needs; a bit of the index stands for a work. */
         private final int[] needs = new int[1 << MOST_SHOWN];
@@ -1042,9 +1042,6 @@ public final class LoggiaPlanner {
         }
 
         int leastByTrying() {
-            for (int i = 0; i < onTrip.length; i++) {
-                onTrip[i] = 0;
-            }
             return putFrom(this, 0, 0);
         }
 

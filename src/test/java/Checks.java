@@ -31,8 +31,16 @@ final class Checks {
             call.accept(planner);
             return "nothing";
         } catch (RuntimeException e) {
-            return e.getClass().getName();
+            return name(e);
         }
+    }
+
+    /** Tells one that a library call threw, for the planner must throw by its own statements alone. */
+    static String name(RuntimeException e) {
+        StackTraceElement[] trace = e.getStackTrace();
+        String thrower = trace.length == 0 ? "" : trace[0].getClassName();
+        boolean byLibrary = thrower.startsWith("java.") || thrower.startsWith("jdk.");
+        return e.getClass().getName() + (byLibrary ? " of the library" : "");
     }
 
     void end() {

@@ -99,8 +99,8 @@ public final class PlansTest {
     /** Asks both ways for the plan of a draft, then for that which the request brings. */
     private static void planned(Checks checks, String what, LoggiaPlanner x, int show, int... due) {
         for (int i = 0; i < due.length; i++) {
-            checks.due("20 " + what, x.wallFor(show, i), due[i]);
             checks.due("21 " + what, x.wallForBySearch(show, i), due[i]);
+            checks.due("20 " + what, x.wallFor(show, i), due[i]);
         }
         checks.due("13 " + what, x.request(show), 'p');
         checks.due("18 " + what, Arrays.toString(Museums.wallsOf(x, show)), Arrays.toString(due));
@@ -220,6 +220,16 @@ public final class PlansTest {
         planned(checks, "just fits on both days", x, 3, 0);
         unplanned(checks, "too wide on two days in the middle", x, 4);
         planned(checks, "when the others are over", x, 5, 0);
+        x = Museums.withWidths(100, 100, 60, 60, 41);
+        Museums.addShow(x, 7, 7, 0, 0);
+        Museums.addShow(x, 9, 9, 0, 1);
+        Museums.addShow(x, 5, 9, 0, 2);
+        Museums.addShow(x, 5, 6, 0, 2);
+        x.request(0);
+        x.request(1);
+        planned(checks, "too wide on days after the first", x, 2, 1);
+        x.cancel(2);
+        planned(checks, "before the others", x, 3, 0);
     }
 
     private static void wallForRefuses(Checks checks) {

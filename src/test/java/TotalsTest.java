@@ -80,7 +80,7 @@ public final class TotalsTest {
         checks.due("29 thirds", x.meanWorks(), 7.0 / 3.0);
     }
 
-    /** The document leaves no run in which this could be false, so only true can be due. */
+    /** No run of calls makes this false; BrokenInsideTest looks at what it finds. */
     private static void staysSafe(Checks checks) {
         checks.due("31 empty", Museums.empty().isSafe(), true);
         LoggiaPlanner x = Museums.small();

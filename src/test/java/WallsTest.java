@@ -101,6 +101,7 @@ public final class WallsTest {
                     y -> y.awayFor(h[0], h[1]));
         }
         x.cancel(2);
+        checks.due("26 away for the first exhibition", Museums.small().awayFor(0, 15), 0);
         checks.due("26 not away when cancelled", Checks.thrown(x, y -> y.awayFor(0, 9)),
                 MISSING.getName());
     }
