@@ -37,9 +37,10 @@ public final class RandomRunsTest {
         return least + (int) ((seed >>> 33) % (most - least + 1));
     }
 
-    /** Mostly a number that there is, at times one that is just out of range. */
+    /** Mostly a number that there is, at times one that is just or far out of range. */
     private int index(int size) {
-        return number(0, 19) == 0 ? number(-1, size) : number(0, Math.max(0, size - 1));
+        int[] outside = {-1, size, Integer.MIN_VALUE, Integer.MAX_VALUE};
+        return number(0, 19) == 0 ? outside[number(0, 3)] : number(0, Math.max(0, size - 1));
     }
 
     private int exhibition() {
