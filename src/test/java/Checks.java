@@ -1,11 +1,18 @@
 import java.util.Objects;
 import java.util.function.Consumer;
+import java.util.function.ObjIntConsumer;
 import java.util.function.Supplier;
 
 /** Counts the answers that are not due; a test ends with exit code 1 if there was one. */
 final class Checks {
+    private static final int TIMES_12_WRAPS_TO_8 = 357913942;
+    private static final int TIMES_2_WRAPS_TO_0 = Integer.MIN_VALUE;
+    private static final int TIMES_2_WRAPS_BELOW_0 = 1 << 30;
+
     private int made = 0;
     private int wrong = 0;
+    private Supplier<LoggiaPlanner> lastStart = null;
+    private String lastLook = "";
 
     void due(String what, Object answer, Object due) {
         made++;
@@ -19,11 +26,49 @@ final class Checks {
     void refused(String what, Class<?> due, Supplier<LoggiaPlanner> start,
             Consumer<LoggiaPlanner> call) {
         due(what, thrown(start.get(), call), due.getName());
-        due(what + " changes nothing", Look.at(() -> {
+        due(what + " changes nothing", Look.nowAndLater(() -> {
             LoggiaPlanner planner = start.get();
             thrown(planner, call);
             return planner;
-        }), Look.at(start));
+        }), lookAt(start));
+    }
+
+    private String lookAt(Supplier<LoggiaPlanner> start) {
+        if (start != lastStart) {
+            lastStart = start;
+            lastLook = Look.nowAndLater(start);
+        }
+        return lastLook;
+    }
+
+    void taken(String what, Supplier<LoggiaPlanner> start, Consumer<LoggiaPlanner> call) {
+        due(what, thrown(start.get(), call), "nothing");
+    }
+
+    /** A call takes the first and the last number of a range, and refuses all others. */
+    void range(String what, Class<?> due, Supplier<LoggiaPlanner> start, int least, int most,
+            ObjIntConsumer<LoggiaPlanner> call) {
+        if (least <= most) {
+            taken(what + ", the least " + least, start, x -> call.accept(x, least));
+            taken(what + ", the greatest " + most, start, x -> call.accept(x, most));
+        }
+        outside(what, due, start, least, most, call);
+    }
+
+    /** Next to the range, far off, and such that too few bits would take them for one in it. */
+    void outside(String what, Class<?> due, Supplier<LoggiaPlanner> start, int least, int most,
+            ObjIntConsumer<LoggiaPlanner> call) {
+        int[] beside = {least - 1, most + 1};
+        int[] alikeInBytes = {least - 256, most + 256, least - 65536, most + 65536};
+        int[] farOff = {Integer.MIN_VALUE, Integer.MIN_VALUE + 1, Integer.MAX_VALUE,
+            TIMES_2_WRAPS_TO_0 + least, TIMES_2_WRAPS_BELOW_0, TIMES_12_WRAPS_TO_8};
+        for (int[] numbers : new int[][] {beside, alikeInBytes, farOff}) {
+            for (int number : numbers) {
+                if (number < least || number > most) {
+                    refused(what + " " + number, due, start, x -> call.accept(x, number));
+                }
+            }
+        }
     }
 
     static String thrown(LoggiaPlanner planner, Consumer<LoggiaPlanner> call) {

@@ -1,51 +1,112 @@
 import java.util.Arrays;
 import java.util.NoSuchElementException;
+import java.util.function.ObjIntConsumer;
+import java.util.function.Supplier;
 
 /** Promises 11 to 18: exhibitions, from the draft to the cancelling. */
 public final class ExhibitionsTest {
     private static final Class<?> INDEX = IndexOutOfBoundsException.class;
     private static final Class<?> MISSING = NoSuchElementException.class;
+    private static final Class<?> NO_WORKS = UnsupportedOperationException.class;
     private static final Class<?> RANGE = IllegalArgumentException.class;
     private static final Class<?> STATE = IllegalStateException.class;
 
     public static void main(String[] args) {
         Checks checks = new Checks();
         addExhibition(checks);
-        addExhibitionRefuses(checks);
+        addExhibitionTakesDaysInOrder(checks);
+        addExhibitionTakesGapsInRange(checks);
+        addExhibitionTakesEight(checks);
+        addExhibitionUsesTheExtremes(checks);
         include(checks);
-        includeRefuses(checks);
+        includeTakesFiveWorks(checks);
+        includeTakesAWorkOnce(checks);
+        includeTakesDraftsOnly(checks);
+        includeTakesWorksThatAreThere(checks);
         request(checks);
-        requestRefuses(checks);
+        requestTakesOneToFiveWorks(checks);
+        requestTakesDraftsOnly(checks);
+        requestLeavesOthersAlone(checks);
         cancel(checks);
+        cancelPlansNoneToSeven(checks);
         cancelPlansInOrder(checks);
-        cancelRefuses(checks);
-        questions(checks);
-        questionsRefuse(checks);
+        cancelLooksOnceAtEach(checks);
+        cancelTakesAllButCancelled(checks);
+        states(checks);
+        worksInOrder(checks);
+        wallsOfPlannedOnesOnly(checks);
+        allTakeExhibitionsThatAreThere(checks);
         checks.end();
     }
 
     private static void addExhibition(Checks checks) {
         LoggiaPlanner x = Museums.empty();
-        checks.due("11 least numbers", x.addExhibition(0, 0, 0), 0);
-        checks.due("11 greatest numbers", x.addExhibition(99, 99, 50), 1);
-        checks.due("11 all days", x.addExhibition(0, 99, 0), 2);
-        checks.due("11 draft", x.stateOf(2), 'd');
-        checks.due("11 without works", x.worksOf(2), 0);
-        for (int i = 3; i < 8; i++) {
-            checks.due("11 number", x.addExhibition(5, 5, 5), i);
+        checks.due("11 first", x.addExhibition(3, 7, 2), 0);
+        checks.due("11 second, like the first", x.addExhibition(3, 7, 2), 1);
+        checks.due("11 draft", x.stateOf(1), 'd');
+        checks.due("11 without works", x.worksOf(1), 0);
+    }
+
+    /** "A first and a last day, from 0 to 99", "its last day, not less than the first one" */
+    private static void addExhibitionTakesDaysInOrder(Checks checks) {
+        for (Supplier<LoggiaPlanner> start : Museums.emptyAndSmall()) {
+            for (int i : new int[] {0, 1, 50, 98, 99}) {
+                int edge = i;
+                checks.range("11 first, to " + edge, RANGE, start, 0, edge,
+                        (x, n) -> x.addExhibition(n, edge, 5));
+                checks.range("11 last, from " + edge, RANGE, start, edge, 99,
+                        (x, n) -> x.addExhibition(edge, n, 5));
+            }
+            checks.refused("11 both too small", RANGE, start, x -> x.addExhibition(-1, -1, 5));
+            checks.refused("11 both too large", RANGE, start, x -> x.addExhibition(100, 100, 5));
         }
     }
 
-    private static void addExhibitionRefuses(Checks checks) {
-        int[][] wrong = {{-1, 5, 0}, {100, 100, 0}, {5, 4, 0}, {0, 100, 0}, {0, 5, -1}, {0, 5, 51}};
-        for (int[] w : wrong) {
-            checks.refused("11 range", RANGE, Museums::small,
-                    y -> y.addExhibition(w[0], w[1], w[2]));
+    /** "A gap from 0 to 50" */
+    private static void addExhibitionTakesGapsInRange(Checks checks) {
+        for (Supplier<LoggiaPlanner> start : Museums.emptyAndSmall()) {
+            checks.range("11 gap", RANGE, start, 0, 50, (x, n) -> x.addExhibition(10, 20, n));
         }
-        checks.refused("11 range first", RANGE, Museums::full, y -> y.addExhibition(5, 4, 0));
-        checks.refused("11 ninth", STATE, Museums::full, y -> y.addExhibition(0, 0, 0));
     }
 
+    /** "At most 8 exhibitions exist, numbered from 0." Those that are cancelled exist, too. */
+    private static void addExhibitionTakesEight(Checks checks) {
+        for (int i = 0; i < 8; i++) {
+            checks.due("11 exhibition " + i,
+                    Museums.counting(0, 0, 0, i).addExhibition(5, 5, 5), i);
+            checks.due("11 exhibition " + i + " beside all others",
+                    Museums.counting(4, 4, 12, i).addExhibition(5, 5, 5), i);
+        }
+        checks.refused("11 ninth", STATE, () -> Museums.counting(0, 0, 0, 8),
+                x -> x.addExhibition(5, 5, 5));
+        checks.refused("11 ninth", STATE, Museums::full, x -> x.addExhibition(0, 0, 0));
+        checks.refused("11 ninth, all cancelled", STATE, ExhibitionsTest::allCancelled,
+                x -> x.addExhibition(0, 0, 0));
+    }
+
+    private static LoggiaPlanner allCancelled() {
+        LoggiaPlanner x = Museums.counting(1, 1, 8, 8);
+        for (int i = 0; i < 8; i++) {
+            x.cancel(i);
+        }
+        return x;
+    }
+
+    private static void addExhibitionUsesTheExtremes(Checks checks) {
+        LoggiaPlanner x = Museums.withWidths(61, 60, 10, 10);
+        Museums.addShow(x, 0, 0, 50, 0);
+        Museums.addShow(x, 99, 99, 0, 0);
+        Museums.addShow(x, 0, 99, 0, 1);
+        for (int i = 0; i < 3; i++) {
+            checks.due("11 planned", x.request(i), 'p');
+        }
+        checks.due("11 gap 50 on day 0", x.taken(0, 0), 60);
+        checks.due("11 gap 0 on day 99", x.taken(0, 99), 10);
+        checks.due("11 hangs on day 0", x.awayFor(1, 0), 2);
+        checks.due("11 hangs on day 99", x.awayFor(1, 99), 2);
+    }
+
+    /** "Returns the number of works", which are "in the order in which they were included". */
     private static void include(Checks checks) {
         LoggiaPlanner x = Museums.withWidths(400, 400, 1, 2, 3, 4, 5, 6);
         x.addExhibition(0, 0, 0);
@@ -60,21 +121,73 @@ public final class ExhibitionsTest {
         checks.due("12 a work in two drafts", x.include(1, 5), 1);
     }
 
-    private static void includeRefuses(Checks checks) {
-        checks.refused("12 no exhibition", MISSING, Museums::small, y -> y.include(6, 0));
-        checks.refused("12 no exhibition", MISSING, Museums::small, y -> y.include(-1, 0));
-        checks.refused("12 exhibition first", MISSING, Museums::small, y -> y.include(6, 99));
-        checks.refused("12 no work", INDEX, Museums::small, y -> y.include(Museums.DRAFT, 5));
-        checks.refused("12 no work", INDEX, Museums::small, y -> y.include(Museums.DRAFT, -1));
-        checks.refused("12 work before state", INDEX, Museums::small,
-                y -> y.include(Museums.PLANNED, 5));
-        checks.refused("12 planned", STATE, Museums::small, y -> y.include(Museums.PLANNED, 4));
-        checks.refused("12 waits", STATE, Museums::small, y -> y.include(Museums.WAITING, 4));
-        checks.refused("12 cancelled", STATE, Museums::small, y -> y.include(Museums.CANCELLED, 4));
-        checks.refused("12 has it", STATE, Museums::small, y -> y.include(Museums.DRAFT, 0));
-        checks.refused("12 has 5", STATE, Museums::full, y -> y.include(0, 11));
+    private static LoggiaPlanner withFirstWorks(int count) {
+        LoggiaPlanner x = Museums.counting(1, 1, 12, 0);
+        x.addExhibition(10, 20, 1);
+        for (int i = 0; i < count; i++) {
+            x.include(0, i);
+        }
+        return x;
     }
 
+    /** "Throws IllegalStateException if it ... has 5 works" */
+    private static void includeTakesFiveWorks(Checks checks) {
+        for (int i = 0; i < 5; i++) {
+            checks.due("12 one more", withFirstWorks(i).include(0, 11), i + 1);
+        }
+        Supplier<LoggiaPlanner> five = () -> withFirstWorks(5);
+        checks.refused("12 sixth work", STATE, five, x -> x.include(0, 11));
+        checks.refused("12 sixth work", STATE, Museums::full, x -> x.include(7, 0));
+        LoggiaPlanner x = five.get();
+        x.addExhibition(0, 0, 0);
+        checks.due("12 another exhibition", x.include(1, 0), 1);
+    }
+
+    /** "Throws IllegalStateException if it ... has this one" */
+    private static void includeTakesAWorkOnce(Checks checks) {
+        for (int i = 1; i <= 5; i++) {
+            int count = i;
+            for (int k = 0; k < count; k++) {
+                int work = k;
+                checks.refused("12 has it", STATE, () -> withFirstWorks(count),
+                        x -> x.include(0, work));
+            }
+        }
+    }
+
+    /** "Throws IllegalStateException if it is not a draft" */
+    private static void includeTakesDraftsOnly(Checks checks) {
+        checks.refused("12 planned", STATE, Museums::small, x -> x.include(Museums.PLANNED, 4));
+        checks.refused("12 waits", STATE, Museums::small, x -> x.include(Museums.WAITING, 4));
+        checks.refused("12 cancelled", STATE, Museums::small, x -> x.include(Museums.CANCELLED, 4));
+        checks.refused("12 cancelled without works", STATE, ExhibitionsTest::cancelledEmpty,
+                x -> x.include(0, 0));
+        checks.due("12 a draft", Museums.small().include(Museums.DRAFT, 4), 3);
+        checks.due("12 a draft without works", Museums.small().include(Museums.EMPTY_DRAFT, 0), 1);
+    }
+
+    private static LoggiaPlanner cancelledEmpty() {
+        LoggiaPlanner x = Museums.counting(1, 0, 1, 0);
+        x.addExhibition(0, 0, 0);
+        x.cancel(0);
+        return x;
+    }
+
+    /** "Throws IndexOutOfBoundsException if there is no such work" */
+    private static void includeTakesWorksThatAreThere(Checks checks) {
+        for (int i : new int[] {0, 1, 11, 12}) {
+            int count = i;
+            Supplier<LoggiaPlanner> start = () -> {
+                LoggiaPlanner x = Museums.counting(4, 4, count, 0);
+                x.addExhibition(5, 5, 5);
+                return x;
+            };
+            checks.range("12 work of " + count, INDEX, start, 0, count - 1,
+                    (x, n) -> x.include(0, n));
+        }
+    }
+
+    /** "Returns 'p' if it is planned, or 'w' if it waits." */
     private static void request(Checks checks) {
         LoggiaPlanner x = Museums.withWidths(30, 20, 20, 20);
         Museums.addShow(x, 5, 9, 0, 0);
@@ -92,33 +205,56 @@ public final class ExhibitionsTest {
         checks.due("13 times", x.planned(), 1);
     }
 
-    private static void requestRefuses(Checks checks) {
-        checks.refused("13 no exhibition", MISSING, Museums::small, y -> y.request(6));
-        checks.refused("13 no exhibition", MISSING, Museums::small, y -> y.request(-1));
-        checks.refused("13 planned", STATE, Museums::small, y -> y.request(Museums.PLANNED));
-        checks.refused("13 waits", STATE, Museums::small, y -> y.request(Museums.WAITING));
-        checks.refused("13 cancelled", STATE, Museums::small, y -> y.request(Museums.CANCELLED));
-        checks.refused("13 no works", UnsupportedOperationException.class, Museums::small,
-                y -> y.request(Museums.EMPTY_DRAFT));
-        checks.refused("13 state before works", STATE, RequestOfCancelled::made, y -> y.request(0));
-    }
-
-    /** An exhibition that was cancelled without works. */
-    private static final class RequestOfCancelled {
-        static LoggiaPlanner made() {
-            LoggiaPlanner x = new LoggiaPlanner();
-            x.addExhibition(0, 0, 0);
-            x.cancel(0);
-            return x;
+    /** "Throws UnsupportedOperationException if it has no works" */
+    private static void requestTakesOneToFiveWorks(Checks checks) {
+        checks.refused("13 no works", NO_WORKS, () -> withFirstWorks(0), x -> x.request(0));
+        checks.refused("13 no works", NO_WORKS, Museums::small, x -> x.request(Museums.EMPTY_DRAFT));
+        for (int i = 1; i <= 5; i++) {
+            LoggiaPlanner x = withFirstWorks(i);
+            checks.due("13 with works", x.request(0), 'p');
+            checks.due("13 all hang", x.hanging(0, 10) + x.hanging(1, 10), i);
         }
     }
 
+    /** "Throws IllegalStateException if it is not a draft" */
+    private static void requestTakesDraftsOnly(Checks checks) {
+        checks.refused("13 planned", STATE, Museums::small, y -> y.request(Museums.PLANNED));
+        checks.refused("13 waits", STATE, Museums::small, y -> y.request(Museums.WAITING));
+        checks.refused("13 cancelled", STATE, Museums::small, y -> y.request(Museums.CANCELLED));
+        checks.refused("13 taken down", STATE, () -> {
+            LoggiaPlanner x = Museums.small();
+            x.setClimate(0, 0, 100);
+            return x;
+        }, y -> y.request(Museums.PLANNED));
+    }
+
+    private static void requestLeavesOthersAlone(Checks checks) {
+        LoggiaPlanner x = Museums.withWidths(30, 20, 20, 20);
+        Museums.addShow(x, 5, 9, 11, 0);
+        Museums.addShow(x, 5, 9, 0, 1);
+        Museums.addShow(x, 5, 9, 0, 0);
+        checks.due("13 waits", x.request(0), 'w');
+        checks.due("13 one that waits does not hang", x.request(1), 'p');
+        checks.due("13 waits still", x.stateOf(0), 'w');
+        checks.due("13 a draft still", x.stateOf(2), 'd');
+        checks.due("13 its wall", x.wallOf(1, 0), 0);
+        checks.due("13 of one that waits nothing is away", x.awayFor(1, 9), 1);
+        checks.refused("13 nothing is away for a draft", MISSING, () -> {
+            LoggiaPlanner y = Museums.withWidths(30, 20, 20);
+            Museums.addShow(y, 5, 9, 0, 0);
+            return y;
+        }, y -> y.awayFor(0, 5));
+    }
+
+    /** "Cancels an exhibition; if it was planned, its works do not hang any more." */
     private static void cancel(Checks checks) {
         LoggiaPlanner x = Museums.small();
         checks.due("14 one that waits", x.cancel(Museums.WAITING), 0);
         checks.due("14 a draft", x.cancel(Museums.DRAFT), 0);
         checks.due("14 a draft without works", x.cancel(Museums.EMPTY_DRAFT), 0);
         checks.due("14 state", x.stateOf(Museums.DRAFT), 'c');
+        checks.due("14 state", x.stateOf(Museums.WAITING), 'c');
+        checks.due("14 state", x.stateOf(Museums.EMPTY_DRAFT), 'c');
         x = Museums.small();
         checks.due("14 a planned one", x.cancel(Museums.PLANNED), 1);
         checks.due("14 state", x.stateOf(Museums.PLANNED), 'c');
@@ -126,6 +262,22 @@ public final class ExhibitionsTest {
         checks.due("14 works do not hang", x.hanging(1, 10), 0);
         checks.due("14 works stay in it", x.worksOf(Museums.PLANNED), 4);
         checks.due("14 a draft stays", x.stateOf(Museums.DRAFT), 'd');
+    }
+
+    /** "Returns the number of exhibitions that are planned by this." From 0 to 7 others. */
+    private static void cancelPlansNoneToSeven(Checks checks) {
+        for (int count = 0; count <= 7; count++) {
+            LoggiaPlanner x = Museums.withWidths(20, 10, 20, 20);
+            Museums.addShow(x, 0, 99, 0, 0);
+            x.request(0);
+            for (int i = 0; i < count; i++) {
+                Museums.addShow(x, 14 * i, 14 * i + 13, 0, 1);
+                checks.due("14 waits", x.request(i + 1), 'w');
+            }
+            checks.due("14 planned by this", x.cancel(0), count);
+            checks.due("14 times", x.planned(), 1 + count);
+            checks.due("14 the cancelled one is not planned", x.stateOf(0), 'c');
+        }
     }
 
     /** Of two that need the same room, the lower number gets it, though it was requested later. */
@@ -151,46 +303,130 @@ public final class ExhibitionsTest {
         checks.due("14 times", x.planned(), 4);
     }
 
-    private static void cancelRefuses(Checks checks) {
-        checks.refused("14 no exhibition", MISSING, Museums::small, y -> y.cancel(6));
-        checks.refused("14 no exhibition", MISSING, Museums::small, y -> y.cancel(-1));
-        checks.refused("14 twice", STATE, Museums::small, y -> y.cancel(Museums.CANCELLED));
+    /** Those before and behind the cancelled one are looked at, the first and the last one, too. */
+    private static void cancelLooksOnceAtEach(Checks checks) {
+        for (int middle = 0; middle < 8; middle++) {
+            LoggiaPlanner x = Museums.withWidths(20, 10, 20, 11);
+            for (int i = 0; i < 8; i++) {
+                Museums.addShow(x, 0, 99, 0, i == middle ? 0 : 1);
+            }
+            x.request(middle);
+            for (int i = 7; i >= 0; i--) {
+                if (i != middle) {
+                    checks.due("14 waits", x.request(i), 'w');
+                }
+            }
+            int lowest = middle == 0 ? 1 : 0;
+            checks.due("14 one of seven", x.cancel(middle), 1);
+            checks.due("14 the lowest number", x.stateOf(lowest), 'p');
+            checks.due("14 the next one", x.cancel(lowest), 1);
+            checks.due("14 times", x.planned(), 3);
+        }
     }
 
-    private static void questions(Checks checks) {
-        LoggiaPlanner x = Museums.small();
-        String states = "";
-        String sizes = "";
+    /** "Throws IllegalStateException if it was cancelled before" */
+    private static void cancelTakesAllButCancelled(Checks checks) {
         for (int i = 0; i < 6; i++) {
-            states += x.stateOf(i);
-            sizes += x.worksOf(i);
+            int show = i;
+            Supplier<LoggiaPlanner> twice = () -> {
+                LoggiaPlanner x = Museums.small();
+                if (show != Museums.CANCELLED) {
+                    x.cancel(show);
+                }
+                return x;
+            };
+            checks.refused("14 twice", STATE, twice, x -> x.cancel(show));
         }
-        checks.due("15 states", states, "pwdcdd");
-        checks.due("16 works", sizes, "412101");
+    }
+
+    /** "Returns 'd', 'p', 'w' or 'c'." "Returns the number of works." */
+    private static void states(Checks checks) {
+        LoggiaPlanner x = Museums.small();
+        StringBuilder states = new StringBuilder();
+        StringBuilder sizes = new StringBuilder();
+        for (int i = 0; i < 6; i++) {
+            states.append(x.stateOf(i));
+            sizes.append(x.worksOf(i));
+        }
+        checks.due("15 states", states.toString(), "pwdcdd");
+        checks.due("16 works", sizes.toString(), "412101");
+        for (int i = 0; i <= 5; i++) {
+            checks.due("16 works", withFirstWorks(i).worksOf(0), i);
+        }
+    }
+
+    /** "The index of the work, from 0", "if the exhibition has no such work" */
+    private static void worksInOrder(Checks checks) {
+        for (int i = 0; i <= 5; i++) {
+            int count = i;
+            checks.range("17 index of " + count, INDEX, () -> withFirstWorks(count), 0, count - 1,
+                    (x, n) -> x.workOf(0, n));
+        }
+        LoggiaPlanner x = Museums.small();
         checks.due("17 first of a draft", x.workOf(Museums.DRAFT, 0), 1);
         checks.due("17 second of a draft", x.workOf(Museums.DRAFT, 1), 0);
+        checks.due("17 last of a planned one", x.workOf(Museums.PLANNED, 3), 3);
+        checks.due("17 of one that waits", x.workOf(Museums.WAITING, 0), 0);
         checks.due("17 of a cancelled one", x.workOf(Museums.CANCELLED, 0), 2);
-        checks.due("18 walls", Arrays.toString(Museums.wallsOf(x, Museums.PLANNED)),
-                "[0, 1, 2, 3]");
+        checks.refused("17 no works", INDEX, Museums::small, y -> y.workOf(Museums.EMPTY_DRAFT, 0));
     }
 
-    private static void questionsRefuse(Checks checks) {
-        for (int i = -1; i <= 6; i += 7) {
-            int wrong = i;
-            checks.refused("15 missing", MISSING, Museums::small, y -> y.stateOf(wrong));
-            checks.refused("16 missing", MISSING, Museums::small, y -> y.worksOf(wrong));
-            checks.refused("17 missing", MISSING, Museums::small, y -> y.workOf(wrong, 99));
-            checks.refused("18 missing", MISSING, Museums::small, y -> y.wallOf(wrong, 99));
+    private static void wallsOfPlannedOnesOnly(Checks checks) {
+        checks.due("18 walls", Arrays.toString(Museums.wallsOf(Museums.small(), Museums.PLANNED)),
+                "[0, 1, 2, 3]");
+        for (int i = 1; i <= 5; i++) {
+            int count = i;
+            Supplier<LoggiaPlanner> start = () -> {
+                LoggiaPlanner x = withFirstWorks(count);
+                x.request(0);
+                return x;
+            };
+            checks.range("18 index of " + count, INDEX, start, 0, count - 1,
+                    (x, n) -> x.wallOf(0, n));
         }
-        for (int i = -1; i <= 4; i += 5) {
-            int wrong = i;
-            checks.refused("17 index", INDEX, Museums::small, y -> y.workOf(0, wrong));
-            checks.refused("18 index", INDEX, Museums::small, y -> y.wallOf(0, wrong));
-        }
-        checks.refused("17 no works", INDEX, Museums::small, y -> y.workOf(Museums.EMPTY_DRAFT, 0));
-        checks.refused("18 index first", INDEX, Museums::small, y -> y.wallOf(Museums.DRAFT, 2));
         checks.refused("18 draft", STATE, Museums::small, y -> y.wallOf(Museums.DRAFT, 0));
         checks.refused("18 waits", STATE, Museums::small, y -> y.wallOf(Museums.WAITING, 0));
         checks.refused("18 cancelled", STATE, Museums::small, y -> y.wallOf(Museums.CANCELLED, 0));
+        checks.refused("18 cancelled after it was planned", STATE, () -> {
+            LoggiaPlanner x = Museums.small();
+            x.cancel(Museums.PLANNED);
+            return x;
+        }, y -> y.wallOf(Museums.PLANNED, 3));
+        checks.refused("18 taken down", STATE, () -> {
+            LoggiaPlanner x = Museums.small();
+            x.setClimate(1, 0, 0);
+            return x;
+        }, y -> y.wallOf(Museums.PLANNED, 0));
+    }
+
+    /** "Throws NoSuchElementException if there is no such exhibition", in each call that takes one. */
+    private static void allTakeExhibitionsThatAreThere(Checks checks) {
+        for (int i : new int[] {0, 1, 7, 8}) {
+            int count = i;
+            there(checks, "12", count, (x, n) -> x.include(n, 11));
+            there(checks, "13", count, (x, n) -> x.request(n));
+            there(checks, "14", count, (x, n) -> x.cancel(n));
+            there(checks, "15", count, (x, n) -> x.stateOf(n));
+            there(checks, "16", count, (x, n) -> x.worksOf(n));
+            there(checks, "17", count, (x, n) -> x.workOf(n, 0));
+            there(checks, "19", count, (x, n) -> x.canTake(n, 0));
+            there(checks, "20", count, (x, n) -> x.wallFor(n, 0));
+            there(checks, "21", count, (x, n) -> x.wallForBySearch(n, 0));
+            there(checks, "22", count, (x, n) -> x.trips(n, 3));
+            there(checks, "23", count, (x, n) -> x.tripsByTrying(n, 3));
+            checks.range("18 exhibition of " + count, MISSING, () -> {
+                LoggiaPlanner x = Museums.counting(4, 4, 12, count);
+                for (int k = 0; k < count; k++) {
+                    x.request(k);
+                }
+                return x;
+            }, 0, count - 1, (x, n) -> x.wallOf(n, 0));
+        }
+    }
+
+    private static void there(Checks checks, String promise, int count,
+            ObjIntConsumer<LoggiaPlanner> call) {
+        checks.range(promise + " exhibition of " + count, MISSING,
+                () -> Museums.counting(4, 4, 12, count), 0, count - 1, call);
     }
 }

@@ -11,12 +11,31 @@ final class Look {
         40, 49, 50, 60, 61, 98, 99, 100, 102, 103, 108, 109};
 
     private static final List<Function<LoggiaPlanner, Object>> QUESTIONS = questions();
+    private static final List<Function<LoggiaPlanner, Object>> CHANGES = changes();
 
     private Look() {
     }
 
+    /** What no question tells, as the length of an empty wall, shows when more comes to hang. */
+    static String nowAndLater(Supplier<LoggiaPlanner> start) {
+        StringBuilder text = new StringBuilder(at(start));
+        change(start.get(), text);
+        text.append(at(() -> {
+            LoggiaPlanner planner = start.get();
+            change(planner, new StringBuilder());
+            return planner;
+        }));
+        return text.toString();
+    }
+
+    private static void change(LoggiaPlanner planner, StringBuilder answers) {
+        for (Function<LoggiaPlanner, Object> change : CHANGES) {
+            answers.append(answer(planner, change)).append(' ');
+        }
+    }
+
     /** Asks planners that are made alike, as the questions are too many for one. */
-    static String at(Supplier<LoggiaPlanner> start) {
+    private static String at(Supplier<LoggiaPlanner> start) {
         StringBuilder text = new StringBuilder();
         LoggiaPlanner planner = start.get();
         for (int i = 0; i < QUESTIONS.size(); i++) {
@@ -34,6 +53,31 @@ final class Look {
         } catch (RuntimeException e) {
             return e.getClass().getSimpleName();
         }
+    }
+
+    private static List<Function<LoggiaPlanner, Object>> changes() {
+        List<Function<LoggiaPlanner, Object>> all = new ArrayList<>();
+        for (int i = 0; i < 8; i++) {
+            int exhibition = i;
+            all.add(x -> x.request(exhibition));
+        }
+        all.add(x -> x.addRoom(50, 10, 70, 65));
+        all.add(x -> x.addLender(120, 2, 30));
+        all.add(x -> x.addWork(30, 0, 100, 100, 50, 0));
+        all.add(x -> x.addWork(35, 0, 100, 100, 60, 1));
+        all.add(x -> x.addExhibition(10, 25, 2));
+        for (int i = 0; i < 8; i++) {
+            int work = i;
+            all.add(x -> x.include(6, work));
+        }
+        all.add(x -> x.request(6));
+        all.add(x -> x.setClimate(0, 60, 10));
+        all.add(x -> x.setClimate(1, 50, 10));
+        all.add(x -> x.separate(0, 2, 'w'));
+        all.add(x -> x.separate(1, 4, 'r'));
+        all.add(x -> x.cancel(0));
+        all.add(x -> x.cancel(3));
+        return all;
     }
 
     private static List<Function<LoggiaPlanner, Object>> questions() {

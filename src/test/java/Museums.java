@@ -1,3 +1,6 @@
+import java.util.List;
+import java.util.function.Supplier;
+
 /** Planners with which several tests begin. */
 final class Museums {
     static final int PLANNED = 0;
@@ -12,6 +15,10 @@ final class Museums {
 
     static LoggiaPlanner empty() {
         return new LoggiaPlanner();
+    }
+
+    static List<Supplier<LoggiaPlanner>> emptyAndSmall() {
+        return List.of(Museums::empty, Museums::small);
     }
 
     /** Two rooms, two lenders, five works, and an exhibition in each state. */
@@ -53,6 +60,27 @@ final class Museums {
         for (int i = 0; i < 8; i++) {
             int first = 10 + i % 3 * 10;
             addShow(x, first, first + 12, i, i, i + 1, i + 2, i + 3, i + 4);
+        }
+        return x;
+    }
+
+    /** So many of each; the exhibitions are drafts, each with the work of its number if it is there. */
+    static LoggiaPlanner counting(int rooms, int lenders, int works, int exhibitions) {
+        LoggiaPlanner x = new LoggiaPlanner();
+        for (int i = 0; i < rooms; i++) {
+            x.addRoom(50, 50, 100 + i, 90 + i);
+        }
+        for (int i = 0; i < lenders; i++) {
+            x.addLender(500, i, 50);
+        }
+        for (int i = 0; i < works; i++) {
+            x.addWork(20 + i, 0, 100, 100, 5 + i, -1);
+        }
+        for (int i = 0; i < exhibitions; i++) {
+            x.addExhibition(10 + i, 20 + i, i);
+            if (i < works) {
+                x.include(i, i);
+            }
         }
         return x;
     }

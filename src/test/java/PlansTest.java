@@ -1,49 +1,112 @@
 import java.util.Arrays;
-import java.util.NoSuchElementException;
+import java.util.function.Supplier;
 
 /** Promises 19 to 21: which works can be taken, and the plans that are found in two ways. */
 public final class PlansTest {
     private static final Class<?> INDEX = IndexOutOfBoundsException.class;
-    private static final Class<?> MISSING = NoSuchElementException.class;
     private static final Class<?> STATE = IllegalStateException.class;
     private static final Class<?> NO_PLAN = UnsupportedOperationException.class;
 
     public static void main(String[] args) {
         Checks checks = new Checks();
-        takesFromLenders(checks);
+        takesUpToTheInsuranceLimit(checks);
+        takesUpToTheLongestLoan(checks);
+        takesFromTheTravelDaysOn(checks);
+        takesAnythingOfTheMuseum(checks);
         takesWhatIsNotAway(checks);
-        canTakeRefuses(checks);
+        takesAwayAroundTravelDays(checks);
+        takesWhatIsAwayForItself(checks);
+        takesForAllButCancelled(checks);
+        takesWorksThatAreThere(checks);
         choosesTheFirstPlan(checks);
         goesBackToEarlierWorks(checks);
         usesAllWalls(checks);
+        fillsWallsToTheEnd(checks);
         keepsToClimates(checks);
         keepsToSeparations(checks);
+        separatesNeighbouringWalls(checks);
         keepsToWhatHangs(checks);
         sumsOnlyWhatHangsTogether(checks);
-        wallForRefuses(checks);
+        findsNoPlanIfOneWorkHasNone(checks);
+        wallsForWorksThatAreThere(checks);
+        wallsForDraftsAndThoseThatWait(checks);
+        wallsForDoNotChange(checks);
         checks.end();
     }
 
-    private static void takesFromLenders(Checks checks) {
+    /** A room, and a work that is lent for an exhibition of these days with these numbers. */
+    private static LoggiaPlanner lent(int limit, int travel, int longest, int value, int first,
+            int last) {
         LoggiaPlanner x = new LoggiaPlanner();
-        x.addLender(100, 4, 10);
-        x.addWork(1, 0, 100, 100, 100, 0);
-        x.addWork(1, 0, 100, 100, 101, 0);
+        x.addRoom(50, 50, 400, 400);
+        x.addLender(limit, travel, longest);
+        x.addWork(1, 0, 100, 100, value, 0);
+        Museums.addShow(x, first, last, 0, 0);
+        return x;
+    }
+
+    /** Whether a work can be taken decides, as all else is right, on a plan, too. */
+    private static void takes(Checks checks, String what, boolean due, LoggiaPlanner x) {
+        checks.due("19 " + what, x.canTake(0, 0), due);
+        if (due) {
+            checks.due("20 " + what, x.wallFor(0, 0), 0);
+            checks.due("21 " + what, x.wallForBySearch(0, 0), 0);
+            checks.due("13 " + what, x.request(0), 'p');
+        } else {
+            unplanned(checks, what, x, 0);
+        }
+        checks.due("19 after the request, " + what, x.canTake(0, 0), due);
+    }
+
+    /** "Its value is not greater than the insurance limit" */
+    private static void takesUpToTheInsuranceLimit(Checks checks) {
+        for (int limit : new int[] {1, 2, 100, 998}) {
+            takes(checks, "worth the limit", true, lent(limit, 0, 100, limit, 5, 9));
+            takes(checks, "worth more than the limit", false, lent(limit, 0, 100, limit + 1, 5, 9));
+        }
+        takes(checks, "worth less than the limit", true, lent(100, 0, 100, 99, 5, 9));
+        takes(checks, "the greatest value", true, lent(999, 0, 100, 999, 5, 9));
+        takes(checks, "the greatest limit", true, lent(9999, 0, 100, 999, 5, 9));
+    }
+
+    /** "The exhibition has no more days than the longest loan" */
+    private static void takesUpToTheLongestLoan(Checks checks) {
+        for (int longest : new int[] {1, 2, 50, 90}) {
+            int last = 9 + longest - 1;
+            takes(checks, "as long as the loan", true, lent(5, 9, longest, 5, 9, last));
+            takes(checks, "a day longer", false, lent(5, 9, longest, 5, 9, last + 1));
+        }
+        takes(checks, "a day shorter", true, lent(5, 0, 5, 5, 0, 3));
+        takes(checks, "all days", true, lent(5, 0, 100, 5, 0, 99));
+        takes(checks, "all days, for a loan of 99", false, lent(5, 0, 99, 5, 0, 99));
+        takes(checks, "the last 99 days", true, lent(5, 0, 99, 5, 1, 99));
+    }
+
+    /** "Its first day is not less than the travel days" */
+    private static void takesFromTheTravelDaysOn(Checks checks) {
+        for (int travel = 0; travel <= 9; travel++) {
+            takes(checks, "first day that can be", true, lent(5, travel, 5, 5, travel, travel));
+            takes(checks, "a day later", true, lent(5, travel, 5, 5, travel + 1, travel + 2));
+            if (travel > 0) {
+                takes(checks, "a day earlier", false, lent(5, travel, 5, 5, travel - 1, travel));
+                takes(checks, "on the day 0", false, lent(5, travel, 5, 5, 0, 0));
+            }
+            takes(checks, "may come back late", true, lent(5, travel, 5, 5, 99, 99));
+        }
+    }
+
+    /** "And, if it belongs to a lender, ...": a work of the museum has none of these limits. */
+    private static void takesAnythingOfTheMuseum(Checks checks) {
+        LoggiaPlanner x = lent(1, 9, 1, 1, 0, 99);
         x.addWork(1, 0, 100, 100, 999, -1);
-        Museums.addShow(x, 4, 13, 0, 0, 1, 2);
-        Museums.addShow(x, 4, 14, 0, 0, 2);
-        Museums.addShow(x, 3, 3, 0, 0, 2);
-        Museums.addShow(x, 90, 99, 0, 0);
-        checks.due("19 at all limits", x.canTake(0, 0), true);
-        checks.due("19 too dear", x.canTake(0, 1), false);
-        checks.due("19 of the museum", x.canTake(0, 2), true);
-        checks.due("19 too long", x.canTake(1, 0), false);
-        checks.due("19 of the museum", x.canTake(1, 1), true);
-        checks.due("19 too early", x.canTake(2, 0), false);
-        checks.due("19 of the museum", x.canTake(2, 1), true);
-        checks.due("19 may come back late", x.canTake(3, 0), true);
-        checks.due("19 waits without rooms", x.request(3), 'w');
-        checks.due("19 while it waits", x.canTake(3, 0), true);
+        Museums.addShow(x, 0, 99, 0, 1);
+        Museums.addShow(x, 0, 99, 0, 1, 0);
+        checks.due("19 too long and too early", x.canTake(0, 0), false);
+        checks.due("19 of the museum", x.canTake(1, 0), true);
+        checks.due("19 of the museum, beside one that cannot be taken", x.canTake(2, 0), true);
+        checks.due("19 that one", x.canTake(2, 1), false);
+        unplanned(checks, "one of the works cannot be taken", x, 2);
+        checks.due("13 of the museum", x.request(1), 'p');
     }
 
     /** The work 0 travels two days; the work 1 belongs to the museum. */
@@ -86,14 +149,76 @@ public final class PlansTest {
         checks.due("19 away for the one before", x.stateOf(5), 'w');
     }
 
-    private static void canTakeRefuses(Checks checks) {
-        checks.refused("19 missing", MISSING, Museums::small, y -> y.canTake(-1, 99));
-        checks.refused("19 missing", MISSING, Museums::small, y -> y.canTake(6, 0));
-        checks.refused("19 index", INDEX, Museums::small, y -> y.canTake(Museums.PLANNED, 4));
-        checks.refused("19 index", INDEX, Museums::small, y -> y.canTake(Museums.PLANNED, -1));
-        checks.refused("19 index first", INDEX, Museums::small,
-                y -> y.canTake(Museums.CANCELLED, 1));
+    /** "No work is away for two exhibitions on the same day": travel days count on both sides. */
+    private static void takesAwayAroundTravelDays(Checks checks) {
+        for (int travel = 0; travel <= 9; travel++) {
+            LoggiaPlanner x = lent(5, travel, 100, 5, 40, 49);
+            int before = 40 - 2 * travel - 1;
+            int after = 49 + 2 * travel + 1;
+            Museums.addShow(x, 10, before, 0, 0);
+            Museums.addShow(x, 10, before + 1, 0, 0);
+            Museums.addShow(x, after, 90, 0, 0);
+            Museums.addShow(x, after - 1, 90, 0, 0);
+            Museums.addShow(x, 44, 44, 0, 0);
+            Museums.addShow(x, 30, 60, 0, 0);
+            x.request(0);
+            boolean[] due = {true, true, false, true, false, false, false};
+            for (int i = 0; i < due.length; i++) {
+                checks.due("19 exhibition " + i + ", travel days " + travel, x.canTake(i, 0), due[i]);
+            }
+            unplanned(checks, "travels on a day of the one before", x, 4);
+            unplanned(checks, "travels on a day of the one behind", x, 2);
+            planned(checks, "is back a day before", x, 3, 0);
+            planned(checks, "leaves a day after", x, 1, 0);
+        }
+    }
+
+    /** "If it is not away for another one", "others being away as they are" */
+    private static void takesWhatIsAwayForItself(Checks checks) {
+        LoggiaPlanner x = lent(5, 3, 100, 5, 40, 49);
+        Museums.addShow(x, 40, 49, 0, 0);
+        x.request(0);
+        checks.due("19 away for itself only", x.canTake(0, 0), true);
+        checks.due("19 away for the other one", x.canTake(1, 0), false);
+        x.request(1);
+        checks.due("19 one that waits takes nothing away", x.canTake(0, 0), true);
+        x.cancel(0);
+        checks.due("19 planned now", x.canTake(1, 0), true);
+    }
+
+    /** "Throws IllegalStateException if it was cancelled" */
+    private static void takesForAllButCancelled(Checks checks) {
         checks.refused("19 cancelled", STATE, Museums::small, y -> y.canTake(Museums.CANCELLED, 0));
+        checks.refused("19 cancelled after it was planned", STATE, () -> {
+            LoggiaPlanner x = Museums.small();
+            x.cancel(Museums.PLANNED);
+            return x;
+        }, y -> y.canTake(Museums.PLANNED, 3));
+        LoggiaPlanner x = Museums.small();
+        checks.due("19 planned", x.canTake(Museums.PLANNED, 3), true);
+        checks.due("19 waits, as it is away", x.canTake(Museums.WAITING, 0), false);
+        checks.due("19 draft", x.canTake(Museums.DRAFT, 0), true);
+        checks.due("19 draft, too dear", x.canTake(Museums.LENT_TOO_DEAR, 0), false);
+    }
+
+    private static LoggiaPlanner withFirstWorks(int count) {
+        LoggiaPlanner x = Museums.counting(1, 1, 12, 0);
+        x.addExhibition(10, 20, 1);
+        for (int i = 0; i < count; i++) {
+            x.include(0, i);
+        }
+        return x;
+    }
+
+    /** "Throws IndexOutOfBoundsException if the exhibition has no such work" */
+    private static void takesWorksThatAreThere(Checks checks) {
+        for (int i = 0; i <= 5; i++) {
+            int count = i;
+            checks.range("19 index of " + count, INDEX, () -> withFirstWorks(count), 0, count - 1,
+                    (x, n) -> x.canTake(0, n));
+        }
+        checks.refused("19 no works", INDEX, Museums::small,
+                x -> x.canTake(Museums.EMPTY_DRAFT, 0));
     }
 
     /** Asks both ways for the plan of a draft, then for that which the request brings. */
@@ -157,6 +282,29 @@ public final class PlansTest {
         unplanned(checks, "no walls", x, 0);
     }
 
+    /** "All that hang on it take at most its length together", each "its width and the gap". */
+    private static void fillsWallsToTheEnd(Checks checks) {
+        for (int gap : new int[] {0, 1, 50}) {
+            int two = 15 + 25 + 2 * gap;
+            for (int length = two - 1; length <= two + 1; length++) {
+                LoggiaPlanner x = Museums.withWidths(length, 1, 15, 25);
+                Museums.addShow(x, 5, 9, gap, 0, 1);
+                if (length >= two) {
+                    planned(checks, "two with a gap of " + gap, x, 0, 0, 0);
+                    checks.due("24 taken", x.taken(0, 9), two);
+                } else {
+                    unplanned(checks, "two with a gap of " + gap, x, 0);
+                }
+            }
+        }
+        LoggiaPlanner x = Museums.withWidths(400, 400, 30, 30, 30, 30, 30);
+        Museums.addShow(x, 5, 9, 50, 0, 1, 2, 3, 4);
+        planned(checks, "five of 80 on 400", x, 0, 0, 0, 0, 0, 0);
+        x = Museums.withWidths(400, 400, 30, 30, 31, 30, 30);
+        Museums.addShow(x, 5, 9, 50, 0, 1, 2, 3, 4);
+        planned(checks, "one more than 400", x, 0, 0, 0, 0, 0, 1);
+    }
+
     private static void keepsToClimates(Checks checks) {
         LoggiaPlanner x = new LoggiaPlanner();
         x.addRoom(50, 50, 100, 100);
@@ -185,6 +333,22 @@ public final class PlansTest {
         x.separate(2, 0, 'w');
         Museums.addShow(x, 1, 2, 0, 0, 1, 2);
         unplanned(checks, "three on two walls", x, 0);
+    }
+
+    /** The walls 1 and 2 are neighbours in number, but in two rooms. */
+    private static void separatesNeighbouringWalls(Checks checks) {
+        for (char kind : new char[] {'r', 'w'}) {
+            LoggiaPlanner x = Museums.withWidths(10, 20, 20, 20);
+            x.addRoom(50, 50, 20, 20);
+            x.separate(0, 1, kind);
+            Museums.addShow(x, 1, 2, 0, 0, 1);
+            planned(checks, "apart by '" + kind + "'", x, 0, 1, 2);
+        }
+        LoggiaPlanner x = Museums.withWidths(20, 20, 20, 20);
+        x.addRoom(50, 50, 20, 20);
+        x.separate(0, 1, 'r');
+        Museums.addShow(x, 1, 2, 0, 0, 1);
+        planned(checks, "not on the other wall of the room", x, 0, 0, 2);
     }
 
     private static void keepsToWhatHangs(Checks checks) {
@@ -232,34 +396,75 @@ public final class PlansTest {
         planned(checks, "before the others", x, 3, 0);
     }
 
-    private static void wallForRefuses(Checks checks) {
-        checks.refused("20 missing", MISSING, Museums::small, y -> y.wallFor(6, 99));
-        checks.refused("20 missing", MISSING, Museums::small, y -> y.wallFor(-1, 0));
-        checks.refused("20 index", INDEX, Museums::small, y -> y.wallFor(Museums.DRAFT, 2));
-        checks.refused("20 index", INDEX, Museums::small, y -> y.wallFor(Museums.DRAFT, -1));
-        checks.refused("20 index first", INDEX, Museums::small, y -> y.wallFor(Museums.PLANNED, 4));
-        checks.refused("20 no works", INDEX, Museums::small,
-                y -> y.wallFor(Museums.EMPTY_DRAFT, 0));
-        checks.refused("20 planned", STATE, Museums::small, y -> y.wallFor(Museums.PLANNED, 0));
-        checks.refused("20 cancelled", STATE, Museums::small, y -> y.wallFor(Museums.CANCELLED, 0));
-        checks.refused("20 waits", NO_PLAN, Museums::small, y -> y.wallFor(Museums.WAITING, 0));
-        checks.refused("20 cannot be taken", NO_PLAN, Museums::small,
-                y -> y.wallFor(Museums.LENT_TOO_DEAR, 0));
-        checks.refused("21 missing", MISSING, Museums::small, y -> y.wallForBySearch(6, 99));
-        checks.refused("21 missing", MISSING, Museums::small, y -> y.wallForBySearch(-1, 0));
-        checks.refused("21 index", INDEX, Museums::small,
-                y -> y.wallForBySearch(Museums.DRAFT, 2));
-        checks.refused("21 index", INDEX, Museums::small,
-                y -> y.wallForBySearch(Museums.DRAFT, -1));
-        checks.refused("21 index first", INDEX, Museums::small,
-                y -> y.wallForBySearch(Museums.PLANNED, 4));
-        checks.refused("21 planned", STATE, Museums::small,
-                y -> y.wallForBySearch(Museums.PLANNED, 0));
-        checks.refused("21 cancelled", STATE, Museums::small,
-                y -> y.wallForBySearch(Museums.CANCELLED, 0));
-        checks.refused("21 waits", NO_PLAN, Museums::small,
-                y -> y.wallForBySearch(Museums.WAITING, 0));
-        checks.refused("21 cannot be taken", NO_PLAN, Museums::small,
-                y -> y.wallForBySearch(Museums.LENT_TOO_DEAR, 0));
+    /** "It is possible if each work can be taken and can hang": one that cannot is enough. */
+    private static void findsNoPlanIfOneWorkHasNone(Checks checks) {
+        for (int odd = 0; odd < 5; odd++) {
+            LoggiaPlanner x = new LoggiaPlanner();
+            x.addRoom(50, 50, 400, 400);
+            x.addLender(10, 0, 100);
+            for (int i = 0; i < 5; i++) {
+                x.addWork(10, 0, i == odd ? 49 : 50, 50, 10, 0);
+            }
+            for (int i = 0; i < 5; i++) {
+                x.addWork(10, 0, 50, 50, i == odd ? 11 : 10, 0);
+            }
+            Museums.addShow(x, 0, 0, 0, 0, 1, 2, 3, 4);
+            Museums.addShow(x, 0, 0, 0, 5, 6, 7, 8, 9);
+            unplanned(checks, "work " + odd + " cannot hang", x, 0);
+            unplanned(checks, "work " + odd + " cannot be taken", x, 1);
+        }
+    }
+
+    /** "Throws IndexOutOfBoundsException if the exhibition has no such work" */
+    private static void wallsForWorksThatAreThere(Checks checks) {
+        for (int i = 0; i <= 5; i++) {
+            int count = i;
+            checks.range("20 index of " + count, INDEX, () -> withFirstWorks(count), 0, count - 1,
+                    (x, n) -> x.wallFor(0, n));
+            checks.range("21 index of " + count, INDEX, () -> withFirstWorks(count), 0, count - 1,
+                    (x, n) -> x.wallForBySearch(0, n));
+        }
+    }
+
+    private static void wallsFor(Checks checks, String what, Class<?> due,
+            Supplier<LoggiaPlanner> start, int show) {
+        checks.refused("20 " + what, due, start, x -> x.wallFor(show, 0));
+        checks.refused("21 " + what, due, start, x -> x.wallForBySearch(show, 0));
+    }
+
+    /** "Throws ... if it is planned or was cancelled", "... if no plan is possible" */
+    private static void wallsForDraftsAndThoseThatWait(Checks checks) {
+        wallsFor(checks, "planned", STATE, Museums::small, Museums.PLANNED);
+        wallsFor(checks, "cancelled", STATE, Museums::small, Museums.CANCELLED);
+        wallsFor(checks, "waits", NO_PLAN, Museums::small, Museums.WAITING);
+        wallsFor(checks, "cannot be taken", NO_PLAN, Museums::small, Museums.LENT_TOO_DEAR);
+        wallsFor(checks, "no walls", NO_PLAN, () -> Museums.counting(0, 0, 1, 1), 0);
+        wallsFor(checks, "taken down", NO_PLAN, () -> {
+            LoggiaPlanner x = Museums.small();
+            x.setClimate(0, 0, 100);
+            x.setClimate(1, 0, 100);
+            return x;
+        }, Museums.PLANNED);
+        LoggiaPlanner x = Museums.small();
+        checks.due("20 draft", x.wallFor(Museums.DRAFT, 1), 1);
+        checks.due("21 draft", x.wallForBySearch(Museums.DRAFT, 1), 1);
+    }
+
+    private static void wallsForDoNotChange(Checks checks) {
+        LoggiaPlanner x = Museums.withWidths(50, 40, 40, 50);
+        Museums.addShow(x, 1, 2, 0, 0, 1);
+        for (int i = 0; i < 3; i++) {
+            checks.due("20 asked again", x.wallFor(0, 0), 1);
+            checks.due("21 asked again", x.wallForBySearch(0, 1), 0);
+        }
+        checks.due("20 a draft still", x.stateOf(0), 'd');
+        checks.due("20 nothing hangs", x.hanging(0, 1) + x.hanging(1, 1), 0);
+        checks.due("20 nothing was planned", x.planned(), 0);
+        checks.due("20 a work more", x.include(0, x.addWork(10, 0, 100, 100, 1, -1)), 3);
+        checks.refused("20 too much now", NO_PLAN, () -> {
+            LoggiaPlanner y = Museums.withWidths(50, 40, 40, 50, 10);
+            Museums.addShow(y, 1, 2, 1, 0, 1, 2);
+            return y;
+        }, y -> y.wallFor(0, 0));
     }
 }

@@ -11,7 +11,11 @@ public final class TripsTest {
         packsWell(checks);
         countsOneLenderAlone(checks);
         answersInAllStates(checks);
-        refuses(checks);
+        fillsTripsToTheLimit(checks);
+        refusesWhatIsDearerThanTheLimit(checks);
+        refusesOnlyForItsOwnWorks(checks);
+        takesLendersThatAreThere(checks);
+        takesExhibitionsThatAreThere(checks);
         checks.end();
     }
 
@@ -71,18 +75,91 @@ public final class TripsTest {
         checks.due("23 no works", x.tripsByTrying(Museums.EMPTY_DRAFT, 1), 0);
     }
 
-    private static void refuses(Checks checks) {
-        checks.refused("22 missing", MISSING, Museums::small, y -> y.trips(6, 9));
-        checks.refused("22 missing", MISSING, Museums::small, y -> y.trips(-1, 0));
-        checks.refused("22 no lender", INDEX, Museums::small, y -> y.trips(0, 2));
-        checks.refused("22 no lender", INDEX, Museums::small, y -> y.trips(0, -1));
-        checks.refused("22 too dear", TOO_DEAR, Museums::small,
-                y -> y.trips(Museums.LENT_TOO_DEAR, 1));
-        checks.refused("23 missing", MISSING, Museums::small, y -> y.tripsByTrying(6, 9));
-        checks.refused("23 missing", MISSING, Museums::small, y -> y.tripsByTrying(-1, 0));
-        checks.refused("23 no lender", INDEX, Museums::small, y -> y.tripsByTrying(0, 2));
-        checks.refused("23 no lender", INDEX, Museums::small, y -> y.tripsByTrying(0, -1));
-        checks.refused("23 too dear", TOO_DEAR, Museums::small,
-                y -> y.tripsByTrying(Museums.LENT_TOO_DEAR, 1));
+    /** "Works with a value of at most the insurance limit together" */
+    private static void fillsTripsToTheLimit(Checks checks) {
+        for (int limit : new int[] {20, 21, 100, 999}) {
+            packed(checks, 1, limit, limit);
+            packed(checks, 1, limit, limit - 1);
+            packed(checks, 1, limit, 1, limit - 1);
+            packed(checks, 2, limit, 1, limit);
+            packed(checks, 2, limit, 2, limit - 1);
+            packed(checks, 1, limit, 1, 1, 1, 1, limit - 4);
+            packed(checks, 2, limit, 1, 1, 1, 1, limit - 3);
+            packed(checks, 2, limit, 2, 1, limit - 2, limit - 1);
+            packed(checks, 3, limit, 2, 2, limit - 1, limit - 1, limit - 5);
+        }
+        packed(checks, 1, 4995, 999, 999, 999, 999, 999);
+        packed(checks, 2, 4994, 999, 999, 999, 999, 999);
+        packed(checks, 5, 999, 999, 999, 999, 999, 999);
+    }
+
+    /** One exhibition with five works of the value 100, but one of another value, of one lender. */
+    private static LoggiaPlanner fiveWorks(int limit, int odd, int value) {
+        LoggiaPlanner x = new LoggiaPlanner();
+        x.addLender(limit, 0, 100);
+        x.addExhibition(0, 0, 0);
+        for (int i = 0; i < 5; i++) {
+            x.include(0, x.addWork(1, 0, 100, 100, i == odd ? value : 100, 0));
+        }
+        return x;
+    }
+
+    /** "Throws UnsupportedOperationException if a value is greater than the insurance limit" */
+    private static void refusesWhatIsDearerThanTheLimit(Checks checks) {
+        for (int i = 0; i < 5; i++) {
+            int odd = i;
+            checks.due("22 just the limit", fiveWorks(100, odd, 100).trips(0, 0), 5);
+            checks.due("23 just the limit", fiveWorks(100, odd, 100).tripsByTrying(0, 0), 5);
+            checks.refused("22 too dear", TOO_DEAR, () -> fiveWorks(100, odd, 101),
+                    x -> x.trips(0, 0));
+            checks.refused("23 too dear", TOO_DEAR, () -> fiveWorks(100, odd, 101),
+                    x -> x.tripsByTrying(0, 0));
+        }
+        checks.refused("22 all too dear", TOO_DEAR, () -> fiveWorks(1, 0, 999),
+                x -> x.trips(0, 0));
+        checks.refused("23 all too dear", TOO_DEAR, () -> fiveWorks(1, 0, 999),
+                x -> x.tripsByTrying(0, 0));
+        checks.refused("22 a single work", TOO_DEAR, Museums::small,
+                x -> x.trips(Museums.LENT_TOO_DEAR, 1));
+        checks.refused("23 a single work", TOO_DEAR, Museums::small,
+                x -> x.tripsByTrying(Museums.LENT_TOO_DEAR, 1));
+    }
+
+    /** "The works of an exhibition that belong to a lender": others may be as dear as they like. */
+    private static void refusesOnlyForItsOwnWorks(Checks checks) {
+        LoggiaPlanner x = new LoggiaPlanner();
+        x.addLender(10, 0, 100);
+        x.addLender(999, 0, 100);
+        x.addExhibition(0, 0, 0);
+        x.include(0, x.addWork(1, 0, 100, 100, 999, -1));
+        x.include(0, x.addWork(1, 0, 100, 100, 999, 1));
+        checks.due("22 none of its works", x.trips(0, 0), 0);
+        checks.due("23 none of its works", x.tripsByTrying(0, 0), 0);
+        x.include(0, x.addWork(1, 0, 100, 100, 10, 0));
+        x.addWork(1, 0, 100, 100, 11, 0);
+        checks.due("22 one that it can bring", x.trips(0, 0), 1);
+        checks.due("23 one that it can bring", x.tripsByTrying(0, 0), 1);
+        checks.due("22 of the other one", x.trips(0, 1), 1);
+        checks.due("23 of the other one", x.tripsByTrying(0, 1), 1);
+    }
+
+    /** "Throws IndexOutOfBoundsException if there is no such lender" */
+    private static void takesLendersThatAreThere(Checks checks) {
+        for (int i = 0; i <= 4; i++) {
+            int count = i;
+            checks.range("22 lender of " + count, INDEX, () -> Museums.counting(4, count, 12, 8), 0,
+                    count - 1, (x, n) -> x.trips(7, n));
+            checks.range("23 lender of " + count, INDEX, () -> Museums.counting(4, count, 12, 8), 0,
+                    count - 1, (x, n) -> x.tripsByTrying(7, n));
+        }
+        checks.range("22 lender", INDEX, Museums::small, 0, 1, (x, n) -> x.trips(0, n));
+        checks.range("23 lender", INDEX, Museums::small, 0, 1, (x, n) -> x.tripsByTrying(0, n));
+    }
+
+    /** "Throws NoSuchElementException if there is no such exhibition" */
+    private static void takesExhibitionsThatAreThere(Checks checks) {
+        checks.range("22 exhibition", MISSING, Museums::small, 0, 5, (x, n) -> x.trips(n, 0));
+        checks.range("23 exhibition", MISSING, Museums::small, 0, 5,
+                (x, n) -> x.tripsByTrying(n, 0));
     }
 }
