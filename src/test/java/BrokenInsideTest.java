@@ -142,6 +142,11 @@ public final class BrokenInsideTest {
         x = Museums.small();
         set(exhibition(x, Museums.LENT_TOO_DEAR), "state", 'w');
         checks.due("31 waits rightly", x.isSafe(), true);
+        for (int i = 0; i < 8; i++) {
+            x = Museums.counting(1, 0, 8, 8);
+            set(exhibition(x, i), "state", 'w');
+            checks.due("31 exhibition " + i + " waits in vain", x.isSafe(), false);
+        }
     }
 
     private static Object room(LoggiaPlanner x, int number) throws ReflectiveOperationException {

@@ -121,21 +121,12 @@ public final class ExhibitionsTest {
         checks.due("12 a work in two drafts", x.include(1, 5), 1);
     }
 
-    private static LoggiaPlanner withFirstWorks(int count) {
-        LoggiaPlanner x = Museums.counting(1, 1, 12, 0);
-        x.addExhibition(10, 20, 1);
-        for (int i = 0; i < count; i++) {
-            x.include(0, i);
-        }
-        return x;
-    }
-
     /** "Throws IllegalStateException if it ... has 5 works" */
     private static void includeTakesFiveWorks(Checks checks) {
         for (int i = 0; i < 5; i++) {
-            checks.due("12 one more", withFirstWorks(i).include(0, 11), i + 1);
+            checks.due("12 one more", Museums.withFirstWorks(i).include(0, 11), i + 1);
         }
-        Supplier<LoggiaPlanner> five = () -> withFirstWorks(5);
+        Supplier<LoggiaPlanner> five = () -> Museums.withFirstWorks(5);
         checks.refused("12 sixth work", STATE, five, x -> x.include(0, 11));
         checks.refused("12 sixth work", STATE, Museums::full, x -> x.include(7, 0));
         LoggiaPlanner x = five.get();
@@ -149,7 +140,7 @@ public final class ExhibitionsTest {
             int count = i;
             for (int k = 0; k < count; k++) {
                 int work = k;
-                checks.refused("12 has it", STATE, () -> withFirstWorks(count),
+                checks.refused("12 has it", STATE, () -> Museums.withFirstWorks(count),
                         x -> x.include(0, work));
             }
         }
@@ -207,10 +198,10 @@ public final class ExhibitionsTest {
 
     /** "Throws UnsupportedOperationException if it has no works" */
     private static void requestTakesOneToFiveWorks(Checks checks) {
-        checks.refused("13 no works", NO_WORKS, () -> withFirstWorks(0), x -> x.request(0));
+        checks.refused("13 no works", NO_WORKS, () -> Museums.withFirstWorks(0), x -> x.request(0));
         checks.refused("13 no works", NO_WORKS, Museums::small, x -> x.request(Museums.EMPTY_DRAFT));
         for (int i = 1; i <= 5; i++) {
-            LoggiaPlanner x = withFirstWorks(i);
+            LoggiaPlanner x = Museums.withFirstWorks(i);
             checks.due("13 with works", x.request(0), 'p');
             checks.due("13 all hang", x.hanging(0, 10) + x.hanging(1, 10), i);
         }
@@ -221,11 +212,8 @@ public final class ExhibitionsTest {
         checks.refused("13 planned", STATE, Museums::small, y -> y.request(Museums.PLANNED));
         checks.refused("13 waits", STATE, Museums::small, y -> y.request(Museums.WAITING));
         checks.refused("13 cancelled", STATE, Museums::small, y -> y.request(Museums.CANCELLED));
-        checks.refused("13 taken down", STATE, () -> {
-            LoggiaPlanner x = Museums.small();
-            x.setClimate(0, 0, 100);
-            return x;
-        }, y -> y.request(Museums.PLANNED));
+        checks.refused("13 taken down", STATE, Museums::smallTakenDown,
+                y -> y.request(Museums.PLANNED));
     }
 
     private static void requestLeavesOthersAlone(Checks checks) {
@@ -351,7 +339,7 @@ public final class ExhibitionsTest {
         checks.due("15 states", states.toString(), "pwdcdd");
         checks.due("16 works", sizes.toString(), "412101");
         for (int i = 0; i <= 5; i++) {
-            checks.due("16 works", withFirstWorks(i).worksOf(0), i);
+            checks.due("16 works", Museums.withFirstWorks(i).worksOf(0), i);
         }
     }
 
@@ -359,7 +347,7 @@ public final class ExhibitionsTest {
     private static void worksInOrder(Checks checks) {
         for (int i = 0; i <= 5; i++) {
             int count = i;
-            checks.range("17 index of " + count, INDEX, () -> withFirstWorks(count), 0, count - 1,
+            checks.range("17 index of " + count, INDEX, () -> Museums.withFirstWorks(count), 0, count - 1,
                     (x, n) -> x.workOf(0, n));
         }
         LoggiaPlanner x = Museums.small();
@@ -377,7 +365,7 @@ public final class ExhibitionsTest {
         for (int i = 1; i <= 5; i++) {
             int count = i;
             Supplier<LoggiaPlanner> start = () -> {
-                LoggiaPlanner x = withFirstWorks(count);
+                LoggiaPlanner x = Museums.withFirstWorks(count);
                 x.request(0);
                 return x;
             };
@@ -387,16 +375,10 @@ public final class ExhibitionsTest {
         checks.refused("18 draft", STATE, Museums::small, y -> y.wallOf(Museums.DRAFT, 0));
         checks.refused("18 waits", STATE, Museums::small, y -> y.wallOf(Museums.WAITING, 0));
         checks.refused("18 cancelled", STATE, Museums::small, y -> y.wallOf(Museums.CANCELLED, 0));
-        checks.refused("18 cancelled after it was planned", STATE, () -> {
-            LoggiaPlanner x = Museums.small();
-            x.cancel(Museums.PLANNED);
-            return x;
-        }, y -> y.wallOf(Museums.PLANNED, 3));
-        checks.refused("18 taken down", STATE, () -> {
-            LoggiaPlanner x = Museums.small();
-            x.setClimate(1, 0, 0);
-            return x;
-        }, y -> y.wallOf(Museums.PLANNED, 0));
+        checks.refused("18 cancelled after it was planned", STATE, Museums::smallCancelled,
+                y -> y.wallOf(Museums.PLANNED, 3));
+        checks.refused("18 taken down", STATE, Museums::smallTakenDown,
+                y -> y.wallOf(Museums.PLANNED, 0));
     }
 
     /** "Throws NoSuchElementException if there is no such exhibition", in each call that takes one. */

@@ -85,6 +85,31 @@ final class Museums {
         return x;
     }
 
+    /** A draft, the exhibition 0, with the first so many of 12 works, for which there is room. */
+    static LoggiaPlanner withFirstWorks(int count) {
+        LoggiaPlanner x = counting(1, 1, 12, 0);
+        x.addExhibition(10, 20, 1);
+        for (int i = 0; i < count; i++) {
+            x.include(0, i);
+        }
+        return x;
+    }
+
+    /** As small(), but the works 0 to 3 can hang nowhere, so that the exhibition PLANNED waits. */
+    static LoggiaPlanner smallTakenDown() {
+        LoggiaPlanner x = small();
+        x.setClimate(0, 0, 100);
+        x.setClimate(1, 0, 100);
+        return x;
+    }
+
+    /** As small(), but the exhibition PLANNED was cancelled, and the one that waited is planned. */
+    static LoggiaPlanner smallCancelled() {
+        LoggiaPlanner x = small();
+        x.cancel(PLANNED);
+        return x;
+    }
+
     /** A room whose climate every work stands, and works of the museum of these widths. */
     static LoggiaPlanner withWidths(int first, int second, int... widths) {
         LoggiaPlanner x = new LoggiaPlanner();

@@ -27,6 +27,7 @@ public final class PlansTest {
         separatesNeighbouringWalls(checks);
         keepsToWhatHangs(checks);
         sumsOnlyWhatHangsTogether(checks);
+        looksAtEachDayAndExhibition(checks);
         findsNoPlanIfOneWorkHasNone(checks);
         wallsForWorksThatAreThere(checks);
         wallsForDraftsAndThoseThatWait(checks);
@@ -189,11 +190,8 @@ public final class PlansTest {
     /** "Throws IllegalStateException if it was cancelled" */
     private static void takesForAllButCancelled(Checks checks) {
         checks.refused("19 cancelled", STATE, Museums::small, y -> y.canTake(Museums.CANCELLED, 0));
-        checks.refused("19 cancelled after it was planned", STATE, () -> {
-            LoggiaPlanner x = Museums.small();
-            x.cancel(Museums.PLANNED);
-            return x;
-        }, y -> y.canTake(Museums.PLANNED, 3));
+        checks.refused("19 cancelled after it was planned", STATE, Museums::smallCancelled,
+                y -> y.canTake(Museums.PLANNED, 3));
         LoggiaPlanner x = Museums.small();
         checks.due("19 planned", x.canTake(Museums.PLANNED, 3), true);
         checks.due("19 waits, as it is away", x.canTake(Museums.WAITING, 0), false);
@@ -201,20 +199,11 @@ public final class PlansTest {
         checks.due("19 draft, too dear", x.canTake(Museums.LENT_TOO_DEAR, 0), false);
     }
 
-    private static LoggiaPlanner withFirstWorks(int count) {
-        LoggiaPlanner x = Museums.counting(1, 1, 12, 0);
-        x.addExhibition(10, 20, 1);
-        for (int i = 0; i < count; i++) {
-            x.include(0, i);
-        }
-        return x;
-    }
-
     /** "Throws IndexOutOfBoundsException if the exhibition has no such work" */
     private static void takesWorksThatAreThere(Checks checks) {
         for (int i = 0; i <= 5; i++) {
             int count = i;
-            checks.range("19 index of " + count, INDEX, () -> withFirstWorks(count), 0, count - 1,
+            checks.range("19 index of " + count, INDEX, () -> Museums.withFirstWorks(count), 0, count - 1,
                     (x, n) -> x.canTake(0, n));
         }
         checks.refused("19 no works", INDEX, Museums::small,
@@ -396,6 +385,22 @@ public final class PlansTest {
         planned(checks, "before the others", x, 3, 0);
     }
 
+    /** "With all that hangs on the days of the exhibition": be it for one day and any exhibition. */
+    private static void looksAtEachDayAndExhibition(Checks checks) {
+        for (int i = 0; i < 8; i++) {
+            int asked = (i + 1) % 8;
+            for (int day = 3; day <= 8; day++) {
+                LoggiaPlanner x = Museums.withWidths(100, 100, 60, 41);
+                for (int k = 0; k < 8; k++) {
+                    Museums.addShow(x, k == i ? day : 4, k == i ? day : 7, 0, k == i ? 0 : 1);
+                }
+                x.request(i);
+                boolean meets = 4 <= day && day <= 7;
+                planned(checks, "60 and 41, on day " + day, x, asked, meets ? 1 : 0);
+            }
+        }
+    }
+
     /** "It is possible if each work can be taken and can hang": one that cannot is enough. */
     private static void findsNoPlanIfOneWorkHasNone(Checks checks) {
         for (int odd = 0; odd < 5; odd++) {
@@ -419,9 +424,9 @@ public final class PlansTest {
     private static void wallsForWorksThatAreThere(Checks checks) {
         for (int i = 0; i <= 5; i++) {
             int count = i;
-            checks.range("20 index of " + count, INDEX, () -> withFirstWorks(count), 0, count - 1,
+            checks.range("20 index of " + count, INDEX, () -> Museums.withFirstWorks(count), 0, count - 1,
                     (x, n) -> x.wallFor(0, n));
-            checks.range("21 index of " + count, INDEX, () -> withFirstWorks(count), 0, count - 1,
+            checks.range("21 index of " + count, INDEX, () -> Museums.withFirstWorks(count), 0, count - 1,
                     (x, n) -> x.wallForBySearch(0, n));
         }
     }
@@ -439,12 +444,7 @@ public final class PlansTest {
         wallsFor(checks, "waits", NO_PLAN, Museums::small, Museums.WAITING);
         wallsFor(checks, "cannot be taken", NO_PLAN, Museums::small, Museums.LENT_TOO_DEAR);
         wallsFor(checks, "no walls", NO_PLAN, () -> Museums.counting(0, 0, 1, 1), 0);
-        wallsFor(checks, "taken down", NO_PLAN, () -> {
-            LoggiaPlanner x = Museums.small();
-            x.setClimate(0, 0, 100);
-            x.setClimate(1, 0, 100);
-            return x;
-        }, Museums.PLANNED);
+        wallsFor(checks, "taken down", NO_PLAN, Museums::smallTakenDown, Museums.PLANNED);
         LoggiaPlanner x = Museums.small();
         checks.due("20 draft", x.wallFor(Museums.DRAFT, 1), 1);
         checks.due("21 draft", x.wallForBySearch(Museums.DRAFT, 1), 1);

@@ -83,6 +83,7 @@ public final class RoomsTest {
         checks.refused("2 fifth room", STATE, () -> Museums.counting(4, 0, 0, 0),
                 x -> x.addRoom(50, 50, 100, 100));
         checks.refused("2 fifth room", STATE, Museums::full, x -> x.addRoom(0, 0, 5, 5));
+        checks.refused("2 fifth room", STATE, Museums::full, x -> x.addRoom(100, 100, 5, 5));
     }
 
     private static void addRoomUsesTheExtremes(Checks checks) {
@@ -113,6 +114,8 @@ public final class RoomsTest {
         for (int room = 0; room < 4; room++) {
             x.addRoom(10 * room, 50, 10 * room + 5, 10 * room + 9);
         }
+        checks.due("2 a fifth one has no walls", Checks.thrown(x, y -> y.addRoom(30, 50, 400, 400)),
+                STATE.getName());
         for (int room = 0; room < 4; room++) {
             x.addWork(10 * room + 5, 10 * room, 10 * room, 50, 1, -1);
             x.addWork(10 * room + 9, 10 * room, 10 * room, 50, 1, -1);
@@ -122,6 +125,8 @@ public final class RoomsTest {
             checks.due("2 its second wall", x.wallOf(room, 0), 2 * room + 1);
             checks.due("2 taken on its first wall", x.taken(2 * room, 0), 10 * room + 5);
             checks.due("2 taken on its second wall", x.taken(2 * room + 1, 0), 10 * room + 9);
+            checks.due("2 its first wall is full", x.share(2 * room, 0), 1.0f);
+            checks.due("2 its second wall is full", x.share(2 * room + 1, 0), 1.0f);
         }
     }
 

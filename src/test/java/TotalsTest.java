@@ -208,12 +208,7 @@ public final class TotalsTest {
             x.cancel(0);
             return x;
         });
-        noMean(checks, "one that was taken down", () -> {
-            LoggiaPlanner x = Museums.small();
-            x.setClimate(0, 0, 100);
-            x.setClimate(1, 0, 100);
-            return x;
-        });
+        noMean(checks, "one that was taken down", Museums::smallTakenDown);
     }
 
     private static void noMean(Checks checks, String what, Supplier<LoggiaPlanner> start) {

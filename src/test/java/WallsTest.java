@@ -202,12 +202,7 @@ public final class WallsTest {
         checks.refused("26 cancelled", MISSING, Museums::small, x -> x.awayFor(2, 50));
         checks.refused("26 in no exhibition", MISSING, () -> Museums.counting(1, 1, 1, 0),
                 x -> x.awayFor(0, 50));
-        checks.refused("26 taken down", MISSING, () -> {
-            LoggiaPlanner x = Museums.small();
-            x.setClimate(0, 0, 100);
-            x.setClimate(1, 0, 100);
-            return x;
-        }, x -> x.awayFor(0, 10));
+        checks.refused("26 taken down", MISSING, Museums::smallTakenDown, x -> x.awayFor(0, 10));
         checks.due("26 planned", Museums.small().awayFor(0, 15), Museums.PLANNED);
     }
 
