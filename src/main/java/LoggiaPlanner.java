@@ -1035,8 +1035,10 @@ public final class LoggiaPlanner {
 
         private int needOfParts(int group) {
             int least = count;
-            for (int part = (group - 1) & group; part > 0; part = (part - 1) & group) {
-                least = Math.min(least, numberAt(needs, part) + numberAt(needs, group ^ part));
+            for (int part = 1; part < group; part++) {
+                if ((part & group) == part) {
+                    least = Math.min(least, numberAt(needs, part) + numberAt(needs, group ^ part));
+                }
             }
             return least;
         }
